@@ -39,6 +39,7 @@ public final class RubberStamps {
     private final int[] text = new int[MOST_BYTES];
     private int textLength;
     private final Sheet sheet = new Sheet();
+    // What the text says. Nothing is pressed here, so that its inks stay those of new stamps.
     private final Sheet draft = new Sheet();
     private final History history = new History();
     private final Fits fits = new Fits();
@@ -634,15 +635,6 @@ public final class RubberStamps {
             return isNumber(stamp) ? wear[stamp] : 0;
         }
 
-        private void empty() {
-            for (int stamp = 0; stamp < MOST_STAMPS; stamp++) {
-                renew(stamp);
-            }
-            presses = 0;
-            inkings = 0;
-            cleanings = 0;
-        }
-
         private void renew(int stamp) {
             if (isNumber(stamp)) {
                 ink[stamp] = NONE;
@@ -657,7 +649,6 @@ public final class RubberStamps {
                 System.arraycopy(ink, stamp + 1, ink, stamp, rest);
                 System.arraycopy(amount, stamp + 1, amount, stamp, rest);
                 System.arraycopy(wear, stamp + 1, wear, stamp, rest);
-                renew(MOST_STAMPS - 1);
             }
         }
 
@@ -714,7 +705,6 @@ public final class RubberStamps {
         private void empty() {
             stamps.count = 0;
             words.count = 0;
-            inks.empty();
         }
 
         private int colorOf(int word) {
@@ -734,6 +724,7 @@ public final class RubberStamps {
             for (int i = 0; i < length && i < STAMP_LETTERS; i++) {
                 stamps.addLetter(words.letterAt(word, from + i));
             }
+            // A stamp that was taken out may have left its ink and wear at this number.
             inks.renew(stamps.count - 1);
         }
 
