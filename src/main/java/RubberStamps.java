@@ -45,7 +45,7 @@ public final class RubberStamps {
     private final Fits fits = new Fits();
     private final Plan plan = new Plan();
     private final Inks trial = new Inks();
-    private final OrderSearch orders = new OrderSearch(sheet, fits);
+    private final OrderSearch orders = new OrderSearch();
     private final CutSearch cuts = new CutSearch();
 
     public RubberStamps() {
@@ -259,14 +259,14 @@ public final class RubberStamps {
         if (!sheet.words.has(index)) {
             throw new IndexOutOfBoundsException("there are not so many words");
         }
-        if (orders.search() == NONE) {
+        if (orders.search(sheet, fits) == NONE) {
             throw new IllegalStateException("there is no such order");
         }
         return orders.wordAt(index);
     }
 
     public int leastCleanings() {
-        return orders.search();
+        return orders.search(sheet, fits);
     }
 
     public int bestCut(int what, int length) throws IllegalArgumentException {
@@ -952,8 +952,6 @@ public final class RubberStamps {
 
     /** Tries the orders of the words in ascending sequence; one with as many cleanings is not better. */
     private static final class OrderSearch {
-        private final Sheet sheet;
-        private final Fits fits;
         private final Inks[] inksAt = new Inks[MOST_WORDS + 1];
         private final Plan[] plans = new Plan[MOST_WORDS];
         // The usable presses for which a plan was found: most steps wear no stamp out, and then it is found already.
@@ -963,9 +961,7 @@ public final class RubberStamps {
         private int taken;
         private int bestCleanings;
 
-        private OrderSearch(Sheet sheet, Fits fits) {
-            this.sheet = sheet;
-            this.fits = fits;
+        private OrderSearch() {
             for (int depth = 0; depth <= MOST_WORDS; depth++) {
                 inksAt[depth] = new Inks();
             }
@@ -975,12 +971,12 @@ public final class RubberStamps {
         }
 
         /** The cleanings of the best order; NONE if there is no order. */
-        private int search() {
+        private int search(Sheet sheet, Fits fits) {
             Arrays.fill(plannedFor, NONE);
             taken = 0;
             bestCleanings = Integer.MAX_VALUE;
             inksAt[0].copyFrom(sheet.inks);
-            tryFrom(this, 0);
+            tryFrom(this, sheet, fits, 0);
             return bestCleanings == Integer.MAX_VALUE ? NONE : bestCleanings - sheet.inks.cleanings;
         }
 
@@ -988,22 +984,22 @@ public final class RubberStamps {
             return index >= 0 && index < MOST_WORDS ? bestSequence[index] : NONE;
         }
 
-        private static void tryFrom(OrderSearch search, int depth) {
-            int words = search.sheet.words.count;
+        private static void tryFrom(OrderSearch search, Sheet sheet, Fits fits, int depth) {
+            int words = sheet.words.count;
             if (depth >= words || depth >= MOST_WORDS) {
                 search.keep(depth);
                 return;
             }
             for (int word = 0; word < words && word < MOST_WORDS; word++) {
-                if (search.advance(depth, word)) {
-                    tryFrom(search, depth + 1);
+                if (search.advance(sheet, fits, depth, word)) {
+                    tryFrom(search, sheet, fits, depth + 1);
                     search.taken &= ~(1 << word);
                 }
             }
         }
 
         /** Writes a word as the next one; false if it can't be, or if the order can't become a better one. */
-        private boolean advance(int depth, int word) {
+        private boolean advance(Sheet sheet, Fits fits, int depth, int word) {
             if (depth < 0 || depth >= MOST_WORDS || word < 0 || word >= MOST_WORDS || (taken >> word & 1) != 0) {
                 return false;
             }
