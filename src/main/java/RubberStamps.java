@@ -959,6 +959,7 @@ public final class RubberStamps {
         private final int[] sequence = new int[MOST_WORDS];
         private final int[] bestSequence = new int[MOST_WORDS];
         private int taken;
+        // NONE until an order is found.
         private int bestCleanings;
 
         private OrderSearch() {
@@ -974,10 +975,10 @@ public final class RubberStamps {
         private int search(Sheet sheet, Fits fits) {
             Arrays.fill(plannedFor, NONE);
             taken = 0;
-            bestCleanings = Integer.MAX_VALUE;
+            bestCleanings = NONE;
             inksAt[0].copyFrom(sheet.inks);
             tryFrom(this, sheet, fits, 0);
-            return bestCleanings == Integer.MAX_VALUE ? NONE : bestCleanings - sheet.inks.cleanings;
+            return bestCleanings == NONE ? NONE : bestCleanings - sheet.inks.cleanings;
         }
 
         private int wordAt(int index) {
@@ -1016,7 +1017,7 @@ public final class RubberStamps {
             }
             after.copyFrom(before);
             plan.carryOut(after, sheet.colorOf(word), sheet.load);
-            if (after.cleanings >= bestCleanings) {
+            if (bestCleanings != NONE && after.cleanings >= bestCleanings) {
                 return false;
             }
             sequence[depth] = word;

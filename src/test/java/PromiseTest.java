@@ -1,19 +1,5 @@
 /** For each promise of the document: ordinary answers, the edges that it names, and wrong inputs. */
-public final class PromiseTest {
-    private static final int MAX = Integer.MAX_VALUE;
-    private static final int MIN = Integer.MIN_VALUE;
-
-    private static final Class<?> INDEX = IndexOutOfBoundsException.class;
-    private static final Class<?> ARGUMENT = IllegalArgumentException.class;
-    private static final Class<?> STATE = IllegalStateException.class;
-
-    private static int wrong = 0;
-    private static int promise = 0;
-
-    interface Call {
-        long run();
-    }
-
+public final class PromiseTest extends Checks {
     public static void main(String[] args) {
         newObject();
         append();
@@ -45,110 +31,13 @@ public final class PromiseTest {
         lettersPerPress();
         undo();
         digest();
-        System.out.println(wrong == 0 ? "all promises hold" : wrong + " answers are not as due");
-        if (wrong != 0) {
-            System.exit(1);
-        }
-    }
-
-    // ---- helpers
-
-    private static void due(String what, long got, long want) {
-        if (got != want) {
-            wrong++;
-            System.out.println("promise " + promise + ": " + what + " answered " + got + ", due is " + want);
-        }
-    }
-
-    /** The call throws exactly this class, and the digest is the same behind it. */
-    private static void dueThrow(String what, Class<?> want, RubberStamps x, Call call) {
-        long before = x.digest();
-        Class<?> got = null;
-        try {
-            call.run();
-        } catch (RuntimeException e) {
-            got = e.getClass();
-        }
-        if (got != want) {
-            wrong++;
-            System.out.println("promise " + promise + ": " + what + " threw " + got + ", due is " + want);
-        }
-        due("digest after " + what, x.digest(), before);
-    }
-
-    private static void type(RubberStamps x, String text) {
-        x.clearText();
-        for (int i = 0; i < text.length(); i++) {
-            x.append(text.charAt(i));
-        }
-    }
-
-    private static RubberStamps of(String text) {
-        RubberStamps x = new RubberStamps();
-        type(x, text);
-        int items = 0;
-        for (int i = 0; i < text.length(); i++) {
-            items += text.charAt(i) == ';' ? 1 : 0;
-        }
-        due("parse of " + text, x.parse(), items);
-        return x;
-    }
-
-    private static int parsed(String text) {
-        RubberStamps x = new RubberStamps();
-        type(x, text);
-        return x.parse();
-    }
-
-    private static String stampText(RubberStamps x, int stamp) {
-        StringBuilder made = new StringBuilder();
-        for (int i = 0; i < x.stamp(stamp, 0); i++) {
-            made.append((char) ('a' + x.print(stamp, i, false)));
-        }
-        return made.toString();
-    }
-
-    private static String wordText(RubberStamps x, int word) {
-        StringBuilder made = new StringBuilder();
-        for (int i = 0; i < x.word(word, 0); i++) {
-            made.append((char) ('a' + x.letter(word, i)));
-        }
-        return made.toString();
-    }
-
-    private static void dueText(String what, String got, String want) {
-        if (!got.equals(want)) {
-            wrong++;
-            System.out.println("promise " + promise + ": " + what + " answered " + got + ", due is " + want);
-        }
-    }
-
-    /** The presses of a best plan as "stamp" or "stamp'" (turned), behind one another. */
-    private static String planText(RubberStamps x, int word) {
-        StringBuilder made = new StringBuilder();
-        for (int i = 0; i < x.word(word, 2); i++) {
-            int code = x.press(word, i);
-            made.append(code / 2).append(code % 2 == 1 ? "'" : "").append(' ');
-        }
-        return made.toString().trim();
-    }
-
-    private static void dueStamp(RubberStamps x, int stamp, int ink, int amount, int wear) {
-        due("ink of stamp " + stamp, x.stamp(stamp, 1), ink);
-        due("amount of stamp " + stamp, x.stamp(stamp, 2), amount);
-        due("wear of stamp " + stamp, x.stamp(stamp, 3), wear);
-    }
-
-    private static void dueCounts(RubberStamps x, int presses, int inkings, int cleanings) {
-        due("presses", x.value(4), presses);
-        due("inkings", x.value(5), inkings);
-        due("cleanings", x.value(6), cleanings);
+        end("promises");
     }
 
     // ---- the promises
 
     private static void newObject() {
-        promise = 1;
+        says("Promise 1");
         RubberStamps x = new RubberStamps();
         due("NONE", RubberStamps.NONE, -1);
         int[] values = {0, 0, 100, 5, 0, 0, 0, 0, 0};
@@ -162,7 +51,7 @@ public final class PromiseTest {
     }
 
     private static void append() {
-        promise = 2;
+        says("Promise 2");
         RubberStamps x = new RubberStamps();
         due("append(0)", x.append(0), 1);
         due("append(127)", x.append(127), 2);
@@ -181,7 +70,7 @@ public final class PromiseTest {
     }
 
     private static void clearText() {
-        promise = 3;
+        says("Promise 3");
         RubberStamps x = of("*ab;0ab;");
         due("clearText()", x.clearText(), 8);
         due("clearText()", x.clearText(), 0);
@@ -194,7 +83,7 @@ public final class PromiseTest {
     }
 
     private static void parse() {
-        promise = 4;
+        says("Promise 4");
         RubberStamps x = of("2noun;*no;0a;*abcde;3abcdefghijkl;*z;");
         due("stamps", x.value(0), 3);
         due("words", x.value(1), 3);
@@ -233,7 +122,7 @@ public final class PromiseTest {
     }
 
     private static void parseErrors() {
-        promise = 4;
+        says("Promise 4");
         due("nothing", parsed(""), 0);
         due("*", parsed("*"), -11);
         due("*;", parsed("*;"), -11);
@@ -273,7 +162,7 @@ public final class PromiseTest {
     }
 
     private static void cut() {
-        promise = 5;
+        says("Promise 5");
         RubberStamps x = of("*a;1banana;2no;");
         due("cut(0, 1, 5)", x.cut(0, 1, 5), 1);
         dueText("stamp 1", stampText(x, 1), "anana");
@@ -317,7 +206,7 @@ public final class PromiseTest {
     }
 
     private static void remove() {
-        promise = 6;
+        says("Promise 6");
         RubberStamps x = of("*ab;*c;*def;2c;1def;0ab;");
         x.write(0);
         x.write(1);
@@ -349,7 +238,7 @@ public final class PromiseTest {
     }
 
     private static void drop() {
-        promise = 7;
+        says("Promise 7");
         RubberStamps x = of("0a;1bc;2def;*bc;");
         due("drop(0)", x.drop(0), 2);
         dueText("word 0", wordText(x, 0), "bc");
@@ -376,7 +265,7 @@ public final class PromiseTest {
     }
 
     private static void setColor() {
-        promise = 8;
+        says("Promise 8");
         RubberStamps x = of("*a;1a;2a;");
         due("setColor(0, 3)", x.setColor(0, 3), 1);
         due("color 0", x.word(0, 1), 3);
@@ -399,7 +288,7 @@ public final class PromiseTest {
     }
 
     private static void setLimits() {
-        promise = 9;
+        says("Promise 9");
         RubberStamps x = of("*a;0a;");
         x.write(0);
         due("setLimits(1, 1)", x.setLimits(1, 1), 100);
@@ -419,7 +308,7 @@ public final class PromiseTest {
     }
 
     private static void clean() {
-        promise = 10;
+        says("Promise 10");
         RubberStamps x = of("*a;*b;3a;0b;");
         due("clean without ink", x.clean(0), 0);
         dueCounts(x, 0, 0, 0);
@@ -440,7 +329,7 @@ public final class PromiseTest {
     }
 
     private static void value() {
-        promise = 11;
+        says("Promise 11");
         RubberStamps x = of("*n;*a;0n;1u;2an;3t;");
         x.setLimits(3, 2);
         due("writeAll()", x.writeAll(), 3);
@@ -459,7 +348,7 @@ public final class PromiseTest {
     }
 
     private static void stamp() {
-        promise = 12;
+        says("Promise 12");
         RubberStamps x = of("*bdlmn;*opqsu;*wxz;*na;*abc;0wxz;");
         int[] lengths = {5, 5, 3, 2, 3};
         int[] turnable = {1, 1, 1, 0, 0};
@@ -486,7 +375,7 @@ public final class PromiseTest {
     }
 
     private static void print() {
-        promise = 13;
+        says("Promise 13");
         String from = "bdlmnopqsuwxz";
         String to = "qplwuodbsnmxz";
         for (int i = 0; i < from.length(); i++) {
@@ -512,7 +401,7 @@ public final class PromiseTest {
     }
 
     private static void word() {
-        promise = 14;
+        says("Promise 14");
         RubberStamps x = of("*n;*a;1nan;2nut;3unun;");
         int[] first = {3, 1, 3, 1, 2, 0};
         int[] second = {3, 2, -1, 0, -1, -1};
@@ -543,7 +432,7 @@ public final class PromiseTest {
     }
 
     private static void letter() {
-        promise = 15;
+        says("Promise 15");
         RubberStamps x = of("0az;1abcdefghijkl;");
         due("letter(0, 0)", x.letter(0, 0), 0);
         due("letter(0, 1)", x.letter(0, 1), 25);
@@ -556,7 +445,7 @@ public final class PromiseTest {
     }
 
     private static void press() {
-        promise = 16;
+        says("Promise 16");
         RubberStamps x = of("*n;*o;0uno;1cat;");
         due("press(0, 0)", x.press(0, 0), 1);
         due("press(0, 1)", x.press(0, 1), 0);
@@ -570,7 +459,7 @@ public final class PromiseTest {
     }
 
     private static void bestPlans() {
-        promise = 16;
+        says("Promise 16");
         dueText("fewest presses", planText(of("*a;*b;*ab;*aba;0abab;"), 0), "2 2");
         dueText("lower stamp first", planText(of("*ab;*a;*bab;*c;0abab;"), 0), "0 0");
         dueText("lower stamp first, shorter", planText(of("*a;*ab;*bab;*c;0abab;"), 0), "0 2");
@@ -589,7 +478,7 @@ public final class PromiseTest {
     }
 
     private static void write() {
-        promise = 17;
+        says("Promise 17");
         RubberStamps x = of("*n;*o;2nono;1a;");
         due("write(0)", x.write(0), 4);
         dueStamp(x, 0, 2, 3, 2);
@@ -604,7 +493,7 @@ public final class PromiseTest {
     }
 
     private static void inking() {
-        promise = 17;
+        says("Promise 17");
         RubberStamps x = of("*n;0nunun;1n;");
         x.setLimits(100, 2);
         due("write(0)", x.write(0), 5);
@@ -628,7 +517,7 @@ public final class PromiseTest {
     }
 
     private static void wearing() {
-        promise = 17;
+        says("Promise 17");
         RubberStamps x = of("*n;*o;0nnn;1no;");
         x.setLimits(3, 5);
         due("up to the limit", x.write(0), 3);
@@ -653,7 +542,7 @@ public final class PromiseTest {
     }
 
     private static void writeAll() {
-        promise = 18;
+        says("Promise 18");
         RubberStamps x = of("*n;*o;0non;1x;2nn;3o;0n;");
         x.setLimits(3, 5);
         due("writeAll()", x.writeAll(), 3);
@@ -679,7 +568,7 @@ public final class PromiseTest {
     }
 
     private static void fewest() {
-        promise = 19;
+        says("Promise 19");
         due("one for both", of("*a;*b;*ab;*n;0ab;1nn;").fewest(), 12);
         due("the lower number", of("*ab;*ab;0ab;").fewest(), 1);
         due("lower as a set", of("*a;*b;*c;*ab;*bc;0abc;").fewest(), 12);
@@ -701,7 +590,7 @@ public final class PromiseTest {
     }
 
     private static void needed() {
-        promise = 20;
+        says("Promise 20");
         RubberStamps x = of("*n;*a;*na;0nana;1na;2nn;3at;0an;");
         due("needed(0)", x.needed(0), 2);
         due("needed(1)", x.needed(1), 1);
@@ -719,14 +608,8 @@ public final class PromiseTest {
         due("without words", of("*a;").needed(0), 0);
     }
 
-    private static void dueOrder(RubberStamps x, int... order) {
-        for (int i = 0; i < order.length; i++) {
-            due("order(" + i + ")", x.order(i), order[i]);
-        }
-    }
-
     private static void order() {
-        promise = 21;
+        says("Promise 21");
         dueOrder(of("*n;0n;1n;0n;1n;"), 0, 2, 1, 3);
         RubberStamps x = of("*n;*o;0n;1n;2o;0no;1n;");
         dueOrder(x, 0, 2, 3, 1, 4);
@@ -755,7 +638,7 @@ public final class PromiseTest {
     }
 
     private static void leastCleanings() {
-        promise = 22;
+        says("Promise 22");
         due("without words", new RubberStamps().leastCleanings(), 0);
         due("without words, with stamps", of("*a;").leastCleanings(), 0);
         due("no order", of("*a;0b;").leastCleanings(), -1);
@@ -772,14 +655,8 @@ public final class PromiseTest {
         due("not enough wear is left", x.leastCleanings(), -1);
     }
 
-    private static void dueCut(RubberStamps x, int length, int... answers) {
-        for (int what = 0; what < 4; what++) {
-            due("bestCut(" + what + ", " + length + ")", x.bestCut(what, length), answers[what]);
-        }
-    }
-
     private static void bestCut() {
-        promise = 23;
+        says("Promise 23");
         RubberStamps x = of("*a;*b;0abab;1ab;");
         dueCut(x, 1, 0, 0, 1, 0);
         dueCut(x, 2, 0, 0, 2, 3);
@@ -810,13 +687,8 @@ public final class PromiseTest {
         dueThrow("bestCut(4, 1) without words", ARGUMENT, empty, () -> empty.bestCut(4, 1));
     }
 
-    private static void dueMean(RubberStamps x, double want) {
-        double got = x.lettersPerPress();
-        due("lettersPerPress() as bits", Double.doubleToLongBits(got), Double.doubleToLongBits(want));
-    }
-
     private static void lettersPerPress() {
-        promise = 24;
+        says("Promise 24");
         dueMean(new RubberStamps(), 0.0);
         dueMean(of("*a;"), 0.0);
         dueMean(of("*a;0b;"), 0.0);
@@ -830,7 +702,7 @@ public final class PromiseTest {
     }
 
     private static void undo() {
-        promise = 25;
+        says("Promise 25");
         RubberStamps x = of("*a;0a;");
         for (int color = 1; color <= 3; color++) {
             x.setColor(0, color);
@@ -865,7 +737,7 @@ public final class PromiseTest {
     }
 
     private static void digest() {
-        promise = 26;
+        says("Promise 26");
         long h = 3389;
         int[] fresh = {0, 0, 0, 100, 5, 0, 0, 0, 0, 0, 0, 0};
         for (int v : fresh) {
