@@ -784,7 +784,7 @@ public final class RubberStamps {
             if (count >= MOST_SAVED) {
                 forgetOldest();
             }
-            if (count >= 0 && count < MOST_SAVED) {
+            if (count >= 0 && count < MOST_SAVED && kept[count] != null) {
                 kept[count].copyFrom(now);
                 count++;
             }
@@ -801,7 +801,7 @@ public final class RubberStamps {
         }
 
         private void pop(Sheet into) {
-            if (count > 0 && count <= MOST_SAVED) {
+            if (count > 0 && count <= MOST_SAVED && kept[count - 1] != null) {
                 count--;
                 into.copyFrom(kept[count]);
             }
@@ -976,8 +976,10 @@ public final class RubberStamps {
             Arrays.fill(plannedFor, NONE);
             taken = 0;
             bestCleanings = NONE;
-            inksAt[0].copyFrom(sheet.inks);
-            tryFrom(this, sheet, fits, 0);
+            if (inksAt[0] != null) {
+                inksAt[0].copyFrom(sheet.inks);
+                tryFrom(this, sheet, fits, 0);
+            }
             return bestCleanings == NONE ? NONE : bestCleanings - sheet.inks.cleanings;
         }
 
@@ -1007,6 +1009,9 @@ public final class RubberStamps {
             Inks before = inksAt[depth];
             Inks after = inksAt[depth + 1];
             Plan plan = plans[word];
+            if (before == null || after == null || plan == null) {
+                return false;
+            }
             int usable = sheet.pressesLeft(before);
             if (plannedFor[word] != usable) {
                 plan.find(sheet, fits, word, usable);
@@ -1026,7 +1031,7 @@ public final class RubberStamps {
         }
 
         private void keep(int depth) {
-            if (depth >= 0 && depth <= MOST_WORDS) {
+            if (depth >= 0 && depth <= MOST_WORDS && inksAt[depth] != null) {
                 bestCleanings = inksAt[depth].cleanings;
                 System.arraycopy(sequence, 0, bestSequence, 0, MOST_WORDS);
             }

@@ -196,6 +196,18 @@ public final class BoundaryAskTest extends Checks {
             x.write(0);
             due("value(7)", x.value(7), 10);
         });
+        test("all 9 that are left of 10", () -> {
+            RubberStamps x = of(TEN + "0abcdefghij;", 1, 5);
+            x.write(0);
+            x.remove(0);
+            due("value(7)", x.value(7), 9);
+        });
+        test("none is left of one", () -> {
+            RubberStamps x = of("*a;0a;", 1, 5);
+            x.write(0);
+            x.remove(0);
+            due("value(7)", x.value(7), 0);
+        });
         test("all but one", () -> {
             RubberStamps x = of(TEN + "0abcdefghi;", 1, 5);
             x.write(0);

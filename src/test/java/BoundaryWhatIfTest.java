@@ -231,6 +231,14 @@ public final class BoundaryWhatIfTest extends Checks {
             x.remove(0);
             dueThrow("order(0)", STATE, x, () -> x.order(0));
         });
+        test("an order that was there with as many other letters", () -> {
+            RubberStamps x = of("*a;0a;");
+            due("order(0)", x.order(0), 0);
+            type(x, "*b;0a;").parse();
+            dueThrow("order(0)", STATE, x, () -> x.order(0));
+            x.undo();
+            due("order(0)", x.order(0), 0);
+        });
         test("not so many words comes first", () -> refused("order(3)", INDEX, Checks::rich, x -> x.order(3)));
         test("the index -1 comes first", () -> refused("order(-1)", INDEX, Checks::rich, x -> x.order(-1)));
     }
