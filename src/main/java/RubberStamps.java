@@ -908,6 +908,9 @@ public final class RubberStamps {
 
         /** The presses, as bits, with which a plan from a place on stays a shortest one. */
         private int shortestPresses(Fits fits, int word, int place, int length) {
+            if (place < 0 || place > length || length > WORD_LETTERS) {
+                return 0;
+            }
             int found = 0;
             for (int step = 1; step <= STAMP_LETTERS && place + step <= length; step++) {
                 if (least[place + step] + 1 == least[place]) {

@@ -143,6 +143,11 @@ public final class BoundaryAskTest extends Checks {
         says("Promise 11, value: 0 the stamps");
         test("none", () -> due("value(0)", of("0a;").value(0), 0));
         test("10", () -> due("value(0)", full().value(0), 10));
+        test("worn out ones are stamps, too", () -> {
+            RubberStamps x = of("*a;*b;0ab;", 1, 5);
+            x.write(0);
+            due("value(0)", x.value(0), 2);
+        });
         says("Promise 11, value: 1 the words");
         test("none", () -> due("value(1)", of("*a;").value(1), 0));
         test("7", () -> due("value(1)", full().value(1), 7));
@@ -336,9 +341,17 @@ public final class BoundaryAskTest extends Checks {
         test("the first one, turned", () -> due("print(0, 0, true)", of("*bdlmn;").print(0, 0, true), 'u' - 'a'));
         test("the fifth one, turned", () -> due("print(0, 4, true)", of("*bdlmn;").print(0, 4, true), 'q' - 'a'));
 
+        test("a stamp that is worn out still has its prints", () -> {
+            RubberStamps x = of("*bdlmn;0bdlmn;", 1, 5);
+            x.write(0);
+            due("stamp(0, 5)", x.stamp(0, 5), 1);
+            dueText("straight", printText(x, 0, false), "bdlmn");
+            dueText("turned", printText(x, 0, true), "uwlpq");
+        });
+
         says("Promise 13, print: NONE if it cannot be pressed turned.");
         test("the letter itself can't be turned", () -> asked("print(0, 0, true)", () -> of("*ab;"), x -> x.print(0, 0, true), NONE));
-        test("another letter can't be turned", () -> asked("print(0, 1, true)", () -> of("*bao;"), x -> x.print(0, 2, true), NONE));
+        test("another letter can't be turned", () -> asked("print(0, 2, true)", () -> of("*bao;"), x -> x.print(0, 2, true), NONE));
 
         // A rich set has the stamps "no", "u" and "xyz", the last of which can't be turned.
         says("Promise 13, print: Throws IndexOutOfBoundsException if there is no such stamp, or it has not so many letters.");

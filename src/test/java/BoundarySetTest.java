@@ -567,6 +567,11 @@ public final class BoundarySetTest extends Checks {
 
         says("Promise 5, cut: Throws IllegalStateException if there are 10 stamps.");
         test("10 stamps", () -> refused("cut(0, 0, 5)", STATE, Checks::full, x -> x.cut(0, 0, 5)));
+        test("10 stamps, all of them worn out", () -> refused("cut(0, 0, 1)", STATE, () -> {
+            RubberStamps x = of(TEN + "0abcdefghij;", 1, 5);
+            x.write(0);
+            return x;
+        }, x -> x.cut(0, 0, 1)));
         test("9 stamps", () -> {
             RubberStamps x = full();
             x.remove(4);

@@ -415,6 +415,7 @@ public final class BoundaryStateTest extends Checks {
         test("10 stamps of 5 letters and 7 words of 12", () -> dueDigest(Checks::full, 147, 4));
         test("a plan of 12 presses", () -> dueDigest(() -> of("*b;*a;0aaaaaaaaaaaa;"), 20, 1));
         test("a turned press", () -> dueDigest(() -> of("*u;0n;"), 6, 1));
+        test("a plan that is not possible", () -> dueDigest(() -> of("*u;*a;0anna;", 1, 5), 12, 2));
         test("a stamp that is worn out, and no plan", () -> dueDigest(() -> {
             RubberStamps x = of("*a;3a;", 1, 1);
             x.write(0);

@@ -323,6 +323,9 @@ public final class BoundaryWhatIfTest extends Checks {
         cut("the second word, which saves more", "0abcd;0e;0ee;", 3, 1, 0, 1, 197);
         cut("the first of two first letters", "*a;*b;0abab;", 5, 0, 0, 4, 3);
         cut("the first letter 0 of two that save as much", "0aa;", 1, 0, 0, 1, 98);
+        cut("the first word, though the second one has it at a lower first letter", "*x;*a;*b;0xab;0abx;", 2, 0, 1, 2, 2);
+        cut("the first word, though the second one has a shorter part", "*a;*b;*c;*d;0aaab;0cdcd;", 3, 0, 0, 3, 2);
+        cut("the lower first letter, though a later one has a shorter part", "*a;*b;*c;0aaabcbc;", 3, 0, 0, 3, 2);
         cut("a later first letter, which saves more", "*a;0ab;", 1, 0, 1, 1, 98);
         cut("the shorter one of two lengths that save as much", "*a;*b;*cd;0abcd;0ab;", 4, 0, 0, 2, 2);
         cut("none saves any: the first letter of the first word", "*ab;0ab;0ab;", 5, 0, 0, 1, 0);
@@ -353,6 +356,11 @@ public final class BoundaryWhatIfTest extends Checks {
         cut("no words", "*a;", 5, NONE, NONE, NONE, NONE);
         cut("10 stamps", TEN + "0ab;", 5, NONE, NONE, NONE, NONE);
         cut("10 stamps and no words", TEN, 5, NONE, NONE, NONE, NONE);
+        test("10 stamps, all of them worn out", () -> {
+            RubberStamps x = of(TEN + "0abcdefghij;", 1, 5);
+            x.write(0);
+            dueCut(x, 5, NONE, NONE, NONE, NONE);
+        });
         cut("9 stamps", TEN.substring(3) + "0ab;", 5, 0, 0, 2, 99);
         test("10 stamps and 7 words", () -> dueCut(full(), 5, NONE, NONE, NONE, NONE));
         test("the 10th stamp is removed", () -> {
